@@ -157,22 +157,27 @@ public final class SearchMill {
 
     public int step() throws IllegalStateException {
         checkUp();
-        checkMerge();
+        View merging = sources;
+        if (merging == null) {
+            throw new IllegalStateException("no merge is under way");
+        }
         if (!doWrite()) {
             return DOWN;
         }
-        int wanted = sources.liveCount();
+        int wanted = merging.liveCount();
         if (copied < wanted) {
             copied++;
             return wanted - copied;
         }
-        endMerge();
+        endMerge(merging);
         return NONE;
     }
 
     public int giveUp() throws IllegalStateException {
         checkUp();
-        checkMerge();
+        if (sources == null) {
+            throw new IllegalStateException("no merge is under way");
+        }
         int done = copied;
         sources = null;
         copied = 0;
@@ -201,11 +206,14 @@ public final class SearchMill {
 
     public int finish() throws IllegalStateException {
         checkUp();
-        checkPrepared();
+        View ready = prepared;
+        if (ready == null) {
+            throw new IllegalStateException("no commit is prepared");
+        }
         if (!doWrite()) {
             return DOWN;
         }
-        commit = prepared;
+        commit = ready;
         prepared = null;
         finished++;
         return finished;
@@ -213,7 +221,9 @@ public final class SearchMill {
 
     public void drop() throws IllegalStateException {
         checkUp();
-        checkPrepared();
+        if (prepared == null) {
+            throw new IllegalStateException("no commit is prepared");
+        }
         prepared = null;
     }
 
@@ -553,18 +563,6 @@ public final class SearchMill {
         }
     }
 
-    private void checkMerge() {
-        if (sources == null) {
-            throw new IllegalStateException("no merge is under way");
-        }
-    }
-
-    private void checkPrepared() {
-        if (prepared == null) {
-            throw new IllegalStateException("no commit is prepared");
-        }
-    }
-
     private void checkLeaf(boolean isPadRight) {
         if (!isPadRight || parts.partCount >= MOST_PARTS || parts.leaves.size() >= MOST_LEAVES) {
             throw new IllegalStateException("no such leaf can be put now");
@@ -666,7 +664,8 @@ public final class SearchMill {
     }
 
     private View committed() {
-        return commit == null ? new View(NONE) : commit.copyOf(0, commit.size());
+        View last = commit;
+        return last == null ? new View(NONE) : last.copyOf(0, last.size());
     }
 
     private int flushBuffer() {
@@ -693,10 +692,10 @@ public final class SearchMill {
         return segment;
     }
 
-    private void endMerge() {
+    private void endMerge(View merging) {
         ArrayList<Document> documents = new ArrayList<>();
         ArrayList<Document> dead = new ArrayList<>();
-        int at = index.takeOut(sources, documents, dead);
+        int at = index.takeOut(merging, documents, dead);
         if (!documents.isEmpty()) {
             Holding merged = new Holding(newSegment(documents));
             for (int i = 0; i < dead.size(); i++) {
@@ -1713,8 +1712,10 @@ public final class SearchMill {
                     leaf++;
                 } else {
                     height = Math.max(height - node.partCount, 0);
-                    values[height] = joined(node, height);
-                    height++;
+                    if (height < values.length) {
+                        values[height] = joined(node, height);
+                        height++;
+                    }
                 }
             }
             return height == 1 ? values[0] : NONE;
@@ -1730,7 +1731,7 @@ public final class SearchMill {
                 }
             }
             if (group.kind == Node.BUT) {
-                return count == 1 && values[from] != NONE ? values[from] : NONE;
+                return count == 1 && from >= 0 && from < values.length ? values[from] : NONE;
             }
             return count >= group.limit ? sum : NONE;
         }
@@ -1963,7 +1964,9 @@ public final class SearchMill {
         private static final int MOST_CACHED = 8;
         private static final int BLOCK = 4;
         private static final int MOST_PASSAGES = 4;
+        /** The places of a passage from 0 on, as bits. */
         private static final int PASSAGE = 63;
+        private static final int EVERYWHERE = -1;
 
         private final Reader reader;
         int held = 0;
@@ -1979,8 +1982,8 @@ public final class SearchMill {
         private final int[] cacheTimes = new int[MOST_CACHED];
         private final int[][] cacheMatches = new int[MOST_CACHED][MOST_KEYS];
         final int[] starts = new int[MOST_PASSAGES];
+        /** The marked places of each leaf; of one that is not marked all places, so that it asks for none. */
         private final int[] spots = new int[MOST_LEAVES];
-        private int spotCount = 0;
 
         Finder(Reader reader) {
             this.reader = reader;
@@ -2086,7 +2089,7 @@ public final class SearchMill {
         int readPassages(Document document, Query query, int field) {
             int marked = document == null ? 0 : readSpots(document, query, field);
             for (int count = 1; marked != 0 && count <= MOST_PASSAGES; count++) {
-                if (isCovered(marked, 0, 0, count)) {
+                if (isCovered(spots, starts, marked, 0, count)) {
                     return count;
                 }
             }
@@ -2095,33 +2098,33 @@ public final class SearchMill {
 
         /** Reads the marked places of each leaf; answers those of all of them. */
         private int readSpots(Document document, Query query, int field) {
-            spotCount = 0;
+            Arrays.fill(spots, EVERYWHERE);
             reader.scanDocument(query, document);
             if (reader.valueAt(query, 0) == NONE) {
                 return 0;
             }
             int marked = 0;
-            for (int i = 0; i < query.leaves.size() && spotCount < spots.length; i++) {
+            for (int i = 0; i < query.leaves.size() && i < spots.length; i++) {
                 Node leaf = query.leaves.get(i);
                 int mark = reader.markAt(i, 0);
                 if (!leaf.isAside && leaf.field == field && mark != 0) {
-                    spots[spotCount] = mark;
-                    spotCount++;
+                    spots[i] = mark;
                     marked |= mark;
                 }
             }
             return marked;
         }
 
-        /** Whether passages from a place on, put behind those that are there, can be so many that do. */
-        private boolean isCovered(int marked, int from, int put, int count) {
-            if (put >= count || put >= MOST_PASSAGES) {
-                return areSpotsIn(count);
+        /** Whether passages put behind those that are there can do, so that there are so many in all. */
+        private static boolean isCovered(int[] spots, int[] starts, int marked, int put, int count) {
+            if (put < 0 || put >= count || put >= starts.length) {
+                return areSpotsIn(spots, starts, count);
             }
-            for (int place = from; place < MOST_PLACES; place++) {
+            // The first set that does is the one that begins earlier: places rise.
+            for (int place = put == 0 ? 0 : starts[put - 1] + 1; place < MOST_PLACES; place++) {
                 if ((marked >> place & 1) != 0) {
                     starts[put] = place;
-                    if (isCovered(marked, place + 1, put + 1, count)) {
+                    if (isCovered(spots, starts, marked, put + 1, count)) {
                         return true;
                     }
                 }
@@ -2129,12 +2132,12 @@ public final class SearchMill {
             return false;
         }
 
-        private boolean areSpotsIn(int count) {
+        private static boolean areSpotsIn(int[] spots, int[] starts, int count) {
             int places = 0;
-            for (int i = 0; i < count && i < MOST_PASSAGES; i++) {
+            for (int i = 0; i < count && i < starts.length; i++) {
                 places |= PASSAGE << starts[i];
             }
-            for (int i = 0; i < spotCount && i < spots.length; i++) {
+            for (int i = 0; i < spots.length; i++) {
                 if ((spots[i] & places) == 0) {
                     return false;
                 }

@@ -109,6 +109,8 @@ public final class FindPromises {
         mill.look(true);
         Check.due("52: rarities are of live documents", mill.rankByScan(1, 0, 0), 3 * 32);
         Check.due("52: the old snapshot keeps them", mill.rankByScan(0, 0, 0), 3 * 32 * 3);
+        mill.find(1, 0, 1);
+        Check.due("49: rarities are of live documents", mill.rankAt(0), 3 * 32);
         SearchMill other = new SearchMill();
         Check.added(other, 0, "a a b a b");
         other.flush();
@@ -122,6 +124,21 @@ public final class FindPromises {
         Check.typed(other, "a b").near(0, 1, false);
         other.query();
         Check.due("52: places 1 and 3 of a", other.rankByScan(0, 2, 0), 3 * 42 * 2);
+        Check.typed(other, "?").wild(0);
+        Check.typed(other, "a").term(0);
+        Check.typed(other, "z").prefix(0);
+        other.least(3, 2);
+        Check.typed(other, "b").fuzzy(0, 1);
+        other.least(2, 2);
+        other.query();
+        Check.due("52: what all parts that match give, together", other.rankByScan(0, 3, 0), 3 * (32 + 48 + 32));
+        other.find(0, 3, 1);
+        Check.due("49: the same", other.rankAt(0), 3 * (32 + 48 + 32));
+        Check.typed(other, "a").term(0);
+        Check.typed(other, "z").term(0);
+        other.but();
+        other.query();
+        Check.due("52: BUT gives what its first part gives", other.rankByScan(0, 4, 0), 3 * 48);
     }
 
     static void blocks() {
@@ -260,6 +277,21 @@ public final class FindPromises {
         mill.prepare();
         Check.due("51: gone", mill.cached(), 0);
         Check.due("50: gone", mill.skipped(), 0);
+        SearchMill other = new SearchMill();
+        Check.added(other, 0, "a");
+        other.prepare();
+        other.finish();
+        Check.termQuery(other, 0, "a");
+        other.look(true);
+        other.find(0, 0, 1);
+        other.crashAt(0);
+        other.prepare();
+        other.open();
+        other.look(true);
+        other.find(1, 0, 1);
+        Check.due("51: the cache is gone with the crash", other.cached(), 0);
+        other.find(1, 0, 1);
+        Check.due("51: and filled anew", other.cached(), 1);
     }
 
     static void cacheOrder() {

@@ -158,6 +158,15 @@ public final class FirstPromises {
         mill.query();
         Check.due("7: category 9", mill.facet(0, 0, 9), 1);
         Check.due("7: the next draft has 0", mill.facet(0, 0, 0), 1);
+        mill.columns(5, 5);
+        mill.columns(6, 1);
+        Check.added(mill, 3, "a");
+        Check.added(mill, 4, "a");
+        mill.flush();
+        mill.look(true);
+        Check.due("7: the last ones", mill.facet(1, 0, 6), 1);
+        Check.due("7: 0 and 0 anew", mill.facet(1, 0, 0), 2);
+        Check.due("7: the number is 0 anew", mill.sortedAt(1, 0, false, 1), 4);
         Check.due("7: number 999", mill.sortedAt(0, 0, true, 0), 1);
         Check.due("7: the next draft has number 0", mill.sortedAt(0, 0, true, 1), 2);
     }

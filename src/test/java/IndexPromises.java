@@ -81,6 +81,10 @@ public final class IndexPromises {
         SearchMill mill = new SearchMill();
         Check.added(mill, 0, "ABCDEFGHIJKLMNOP zz", "abc ab abd");
         mill.flush();
+        Check.due("28: abc and ab", mill.shared(0, 1, 1), 2);
+        Check.due("28: abd and abc", mill.shared(0, 1, 2), 2);
+        Check.due("29: 4 + 3 + 3", mill.wordBytes(0, 1), 10);
+        Check.due("29: 14 + 4", mill.wordBytes(0, 0), 18);
         Check.due("30: small letters", mill.signAt(0, 0, 0, 0), 'a');
         Check.due("30: the twelfth sign", mill.signAt(0, 0, 0, 11), 'l');
         Check.due("30: no thirteenth", mill.signAt(0, 0, 0, 12), ' ');

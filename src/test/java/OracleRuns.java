@@ -6,8 +6,9 @@ public final class OracleRuns {
     private static final int SHOWN = 20;
     private static final int LETTERS = 14;
     private static final String[] WORDS = {
-        "cat", "dog", "b", "cats", "dogged", "run", "running", "runs", "a", "the", "glass", "cared", "care", "caring",
-        "red", "reds", "x1", "abcdefghijklmnop", "abcdefghijklxyz", "abcdefghijkl", "sing", "singing", "bus"};
+        "cat", "dog", "b", "cats", "dogged", "run", "running", "runs", "a", "the", "king", "aking", "bed", "abed",
+        "gas", "is", "glass", "cared", "care", "caring", "red", "reds", "x1", "abcdefghijklmnop", "abcdefghijklxyz",
+        "abcdefghijkl", "sing", "singing", "bus"};
 
     private interface Call {
         long make();
@@ -112,9 +113,9 @@ public final class OracleRuns {
     }
 
     private void rules() {
-        int kind = draw(3);
+        int kind = draw(4);
         for (int i = 0; i < kind; i++) {
-            type(words(2));
+            type(draw(2) == 0 ? "b" : words(2));
             ask("stop", () -> mill.stop(), () -> oracle.stop());
             ask("wipe", () -> mill.wipe(), () -> oracle.wipe());
             type(words(2));
