@@ -582,10 +582,11 @@ public final class SearchMill {
     }
 
     private Holding holdingAt(int place) {
-        if (isOff || place < 0 || place >= index.size()) {
+        Holding holding = index.at(place);
+        if (isOff || holding == null) {
             throw new IndexOutOfBoundsException("there is no such place");
         }
-        return index.at(place);
+        return holding;
     }
 
     private ArrayList<Postings> wordsAt(int place, int field) {
@@ -676,6 +677,8 @@ public final class SearchMill {
             }
         }
         Segment segment = newSegment(buffer);
+        segment.readTexts(0);
+        segment.readTexts(1);
         index.put(index.size(), new Holding(segment));
         buffer.clear();
         return segment.number;
@@ -687,8 +690,6 @@ public final class SearchMill {
         for (int i = 0; i < documents.size(); i++) {
             segment.documents.add(documents.get(i));
         }
-        segment.readTexts(0);
-        segment.readTexts(1);
         return segment;
     }
 
@@ -697,7 +698,10 @@ public final class SearchMill {
         ArrayList<Document> dead = new ArrayList<>();
         int at = index.takeOut(merging, documents, dead);
         if (!documents.isEmpty()) {
-            Holding merged = new Holding(newSegment(documents));
+            Segment segment = newSegment(documents);
+            segment.readTexts(0);
+            segment.readTexts(1);
+            Holding merged = new Holding(segment);
             for (int i = 0; i < dead.size(); i++) {
                 merged.kill(dead.get(i).key);
             }
@@ -1250,6 +1254,17 @@ public final class SearchMill {
             return count;
         }
 
+        /** How many live documents have something in their elements of a row. */
+        int liveIn(int[] row) {
+            int count = 0;
+            for (int i = 0; i < row.length; i++) {
+                if (row[i] != 0 && isLive(i)) {
+                    count++;
+                }
+            }
+            return count;
+        }
+
         boolean hasDead() {
             return liveCount() < isDead.length;
         }
@@ -1603,11 +1618,11 @@ public final class SearchMill {
 
         /** Whether a token is as a PREFIX, WILD or FUZZY tells. */
         boolean isTold(long token) {
-            return kind == FUZZY ? isEdited(token) : isLikePattern(token);
+            int length = Text.lengthOf(token);
+            return kind == FUZZY ? isEdited(token, length) : isLikePattern(token, length);
         }
 
-        private boolean isLikePattern(long token) {
-            int length = Text.lengthOf(token);
+        private boolean isLikePattern(long token, int length) {
             // A bit tells that so many elements of the pattern can stand for the signs up to here.
             int reached = withEmpty(1);
             for (int i = 0; i < length; i++) {
@@ -1638,8 +1653,7 @@ public final class SearchMill {
             return all;
         }
 
-        private boolean isEdited(long token) {
-            int length = Text.lengthOf(token);
+        private boolean isEdited(long token, int length) {
             int last = costs.length - 1;
             if (last < 0 || Math.abs(length - last) > limit) {
                 return false;
@@ -1771,20 +1785,9 @@ public final class SearchMill {
                 Holding holding = view.at(i);
                 Postings postings = holding == null ? null : holding.segment.postingsOf(field, token);
                 if (postings != null) {
-                    count += liveIn(holding, postings);
-                }
-            }
-            return count;
-        }
-
-        private int liveIn(Holding holding, Postings postings) {
-            int[] row = rows[0];
-            Arrays.fill(row, 0);
-            postings.spread(row);
-            int count = 0;
-            for (int i = 0; i < row.length; i++) {
-                if (row[i] != 0 && holding.isLive(i)) {
-                    count++;
+                    Arrays.fill(rows[0], 0);
+                    postings.spread(rows[0]);
+                    count += holding.liveIn(rows[0]);
                 }
             }
             return count;
@@ -2087,7 +2090,11 @@ public final class SearchMill {
 
         /** Finds the passages of a document, which may be null; answers how many they are. */
         int readPassages(Document document, Query query, int field) {
-            int marked = document == null ? 0 : readSpots(document, query, field);
+            if (document == null) {
+                return 0;
+            }
+            reader.scanDocument(query, document);
+            int marked = readSpots(query, field);
             for (int count = 1; marked != 0 && count <= MOST_PASSAGES; count++) {
                 if (isCovered(spots, starts, marked, 0, count)) {
                     return count;
@@ -2096,10 +2103,9 @@ public final class SearchMill {
             return 0;
         }
 
-        /** Reads the marked places of each leaf; answers those of all of them. */
-        private int readSpots(Document document, Query query, int field) {
+        /** Reads the marked places of each leaf in the document that was read; answers those of all of them. */
+        private int readSpots(Query query, int field) {
             Arrays.fill(spots, EVERYWHERE);
-            reader.scanDocument(query, document);
             if (reader.valueAt(query, 0) == NONE) {
                 return 0;
             }

@@ -109,8 +109,17 @@ public final class FindPromises {
         mill.look(true);
         Check.due("52: rarities are of live documents", mill.rankByScan(1, 0, 0), 3 * 32);
         Check.due("52: the old snapshot keeps them", mill.rankByScan(0, 0, 0), 3 * 32 * 3);
-        mill.find(1, 0, 1);
-        Check.due("49: rarities are of live documents", mill.rankAt(0), 3 * 32);
+        SearchMill third = new SearchMill();
+        for (int i = 0; i < 8; i++) {
+            Check.added(third, i, i < 2 ? "z" : "y");
+        }
+        third.flush();
+        third.delete(1);
+        third.look(true);
+        Check.termQuery(third, 0, "z");
+        third.find(0, 0, 1);
+        Check.due("49: rarities are of live documents, 8 / 2", third.rankAt(0), 3 * 32 * 3);
+        Check.due("52: as told from texts", third.rankByScan(0, 0, 0), 3 * 32 * 3);
         SearchMill other = new SearchMill();
         Check.added(other, 0, "a a b a b");
         other.flush();

@@ -180,7 +180,7 @@ public final class OracleRuns {
             ask("term(" + field + ")", () -> mill.term(field), () -> oracle.term(field));
         } else if (kind == 2) {
             int slop = near(4, 20);
-            type(words(draw(6) == 0 ? 9 : 3));
+            type(draw(3) == 0 ? someWord() + " b " + someWord() : words(draw(6) == 0 ? 9 : 3));
             ask("phrase(" + field + ", " + slop + ")", () -> mill.phrase(field, slop), () -> oracle.phrase(field, slop));
         } else if (kind == 3) {
             int distance = near(4, 20);
