@@ -35,18 +35,19 @@ public final class OracleRuns {
         return (int) ((seed >>> 33) % bound);
     }
 
+    /** An answer, or a number for the exception, which has to come from a throw statement. */
     private static long outcome(Call call) {
         try {
             return call.make();
-        } catch (IllegalStateException e) {
-            return 1000001;
-        } catch (IndexOutOfBoundsException e) {
-            return e.getClass() == IndexOutOfBoundsException.class ? 1000002 : 1000009;
-        } catch (IllegalArgumentException e) {
-            return 1000003;
         } catch (RuntimeException e) {
-            System.out.println("thrown by the machine: " + e);
-            return 1000000;
+            StackTraceElement[] trace = e.getStackTrace();
+            if (trace.length > 0 && !trace[0].getClassName().matches("(SearchMill|Oracle).*")) {
+                System.out.println("thrown by the machine: " + e);
+                return 1000000;
+            }
+            return e.getClass() == IllegalStateException.class ? 1000001
+                : e.getClass() == IndexOutOfBoundsException.class ? 1000002
+                : e.getClass() == IllegalArgumentException.class ? 1000003 : 1000009;
         }
     }
 
