@@ -121,6 +121,16 @@ public final class Check {
         return mill;
     }
 
+    /** A machine with so many segments of one document. */
+    public static SearchMill made(int segments) {
+        SearchMill mill = new SearchMill();
+        for (int i = 0; i < segments; i++) {
+            mill.add(i % 100);
+            mill.flush();
+        }
+        return mill;
+    }
+
     /** Does all steps of the merge that is due; answers how many documents were copied. */
     public static int merged(SearchMill mill) {
         int wanted = mill.merge();

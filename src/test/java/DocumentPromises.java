@@ -15,19 +15,6 @@ public final class DocumentPromises {
         Check.end();
     }
 
-    static SearchMill withSegments(int... sizes) {
-        SearchMill mill = new SearchMill();
-        int key = 0;
-        for (int size : sizes) {
-            for (int i = 0; i < size; i++) {
-                mill.add(key);
-                key++;
-            }
-            mill.flush();
-        }
-        return mill;
-    }
-
     static void add() {
         SearchMill mill = new SearchMill();
         Check.fails("8: key -1", Check.INDEX, () -> mill.add(-1));
@@ -139,7 +126,7 @@ public final class DocumentPromises {
         Check.fails("10: 200 segments", Check.STATE, () -> mill.flush());
         Check.fails("15: 200 segments and a buffer", Check.STATE, () -> mill.prepare());
         Check.due("10: nothing was changed", mill.delete(0), true);
-        SearchMill other = withSegments(1, 1, 1);
+        SearchMill other = Check.withSegments(1, 1, 1);
         other.merge();
         for (int i = 3; i < 200; i++) {
             other.add(50);
@@ -153,16 +140,16 @@ public final class DocumentPromises {
     }
 
     static void due() {
-        SearchMill mill = withSegments(3, 1, 2);
+        SearchMill mill = Check.withSegments(3, 1, 2);
         Check.due("11: none", mill.due(), SearchMill.NONE);
         mill.add(50);
         mill.flush();
         Check.due("11: 1, 2 and 1 are of one tier", mill.due(), 1);
-        Check.due("11: 3, 8, 4 are of one tier", withSegments(3, 8, 4).due(), 0);
-        Check.due("11: 8, 9, 8 are not", withSegments(8, 9, 8).due(), SearchMill.NONE);
-        Check.due("11: 2, 3, 2 are not", withSegments(2, 3, 2).due(), SearchMill.NONE);
-        Check.due("11: the lowest place", withSegments(9, 1, 1, 1, 1).due(), 1);
-        SearchMill other = withSegments(1, 3, 3, 3);
+        Check.due("11: 3, 8, 4 are of one tier", Check.withSegments(3, 8, 4).due(), 0);
+        Check.due("11: 8, 9, 8 are not", Check.withSegments(8, 9, 8).due(), SearchMill.NONE);
+        Check.due("11: 2, 3, 2 are not", Check.withSegments(2, 3, 2).due(), SearchMill.NONE);
+        Check.due("11: the lowest place", Check.withSegments(9, 1, 1, 1, 1).due(), 1);
+        SearchMill other = Check.withSegments(1, 3, 3, 3);
         other.delete(1);
         other.delete(2);
         other.delete(3);
@@ -174,7 +161,7 @@ public final class DocumentPromises {
     }
 
     static void merge() {
-        SearchMill mill = withSegments(1, 1);
+        SearchMill mill = Check.withSegments(1, 1);
         Check.fails("12: none is due", Check.STATE, () -> mill.merge());
         mill.add(40);
         mill.add(41);
@@ -227,7 +214,7 @@ public final class DocumentPromises {
     }
 
     static void stepWithDeletions() {
-        SearchMill mill = withSegments(3, 3, 3);
+        SearchMill mill = Check.withSegments(3, 3, 3);
         mill.delete(1);
         mill.merge();
         mill.delete(4);
@@ -241,7 +228,7 @@ public final class DocumentPromises {
         Check.fails("13: the one deleted ahead is not in it", Check.INDEX, () -> mill.keyAt(0, 8));
         Check.due("13: the new one is in the buffer", mill.delete(8), true);
         Check.due("13: and not in the segment", mill.delete(8), false);
-        SearchMill other = withSegments(1, 1, 1);
+        SearchMill other = Check.withSegments(1, 1, 1);
         other.merge();
         other.step();
         other.crashAt(0);
@@ -249,7 +236,7 @@ public final class DocumentPromises {
         Check.fails("13: is DOWN", Check.STATE, () -> other.step());
         other.open();
         Check.fails("13: the merge is gone", Check.STATE, () -> other.step());
-        SearchMill third = withSegments(1, 1, 1);
+        SearchMill third = Check.withSegments(1, 1, 1);
         third.merge();
         third.crashAt(3);
         third.step();
@@ -262,7 +249,7 @@ public final class DocumentPromises {
     }
 
     static void emptyMerge() {
-        SearchMill mill = withSegments(1, 1, 1, 3);
+        SearchMill mill = Check.withSegments(1, 1, 1, 3);
         mill.delete(0);
         mill.delete(1);
         mill.delete(2);
@@ -277,7 +264,7 @@ public final class DocumentPromises {
     }
 
     static void giveUp() {
-        SearchMill mill = withSegments(1, 1, 1);
+        SearchMill mill = Check.withSegments(1, 1, 1);
         Check.fails("14: none is under way", Check.STATE, () -> mill.giveUp());
         mill.merge();
         Check.due("14: nothing was copied", mill.giveUp(), 0);

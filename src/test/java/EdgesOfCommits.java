@@ -166,17 +166,8 @@ public final class EdgesOfCommits {
         }
     }
 
-    static SearchMill made(int segments) {
-        SearchMill mill = new SearchMill();
-        for (int i = 0; i < segments; i++) {
-            mill.add(i % 100);
-            mill.flush();
-        }
-        return mill;
-    }
-
     static void prepareAt200Segments() {
-        SearchMill mill = made(199);
+        SearchMill mill = Check.made(199);
         mill.add(99);
         Check.due("15: 199 were made, the flush makes the 200th", mill.prepare(), 200);
         mill.drop();
@@ -187,7 +178,7 @@ public final class EdgesOfCommits {
         mill.delete(0);
         Check.due("15: it is empty again", mill.prepare(), 200);
         Check.refused("15: 200 were made", Check.STATE, () -> {
-            SearchMill full = made(200);
+            SearchMill full = Check.made(200);
             full.add(3);
             return full;
         }, SearchMill::prepare);

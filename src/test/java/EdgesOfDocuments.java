@@ -17,6 +17,7 @@ public final class EdgesOfDocuments {
         deleteRefused();
         emptyFlush();
         flushOfAllSizes();
+        crashAtEachWriteOfAFlush();
         twoHundredSegments();
         flushRefused();
         Check.end();
@@ -291,17 +292,40 @@ public final class EdgesOfDocuments {
         }
     }
 
-    static SearchMill made(int segments) {
-        SearchMill mill = new SearchMill();
-        for (int i = 0; i < segments; i++) {
-            mill.add(i % 100);
-            mill.flush();
+    static void crashAtEachWriteOfAFlush() {
+        for (int writes = 0; writes <= 4; writes++) {
+            SearchMill mill = committedOne();
+            int before = mill.writes();
+            for (int key = 10; key < 13; key++) {
+                mill.add(key);
+            }
+            mill.crashAt(writes);
+            Check.due("10: " + writes + " writes ahead of the crash", mill.flush(), writes < 4 ? SearchMill.DOWN : 1);
+            Check.due("22: so many were done", mill.writes() - before, writes);
+            Check.due("20: DOWN", mill.isDown(), writes < 4);
+            if (writes < 4) {
+                Check.due("19: the segment is not there", mill.open(), 1);
+                Check.due("10: the buffer is gone", mill.flush(), SearchMill.NONE);
+                Check.due("9: so are its documents", mill.delete(11), false);
+                mill.add(11);
+                Check.due("10: no number was taken", mill.flush(), 1);
+            } else {
+                Check.due("25: the segment is whole", mill.live(1), 3);
+                mill.add(13);
+                Check.due("10: the next write is the crash", mill.flush(), SearchMill.DOWN);
+            }
         }
+    }
+
+    static SearchMill committedOne() {
+        SearchMill mill = Check.withSegments(1);
+        mill.prepare();
+        mill.finish();
         return mill;
     }
 
     static void twoHundredSegments() {
-        SearchMill mill = made(199);
+        SearchMill mill = Check.made(199);
         Check.due("10: 199 were made, an empty buffer", mill.flush(), SearchMill.NONE);
         mill.add(0);
         Check.due("10: the 200th", mill.flush(), 199);
@@ -316,10 +340,10 @@ public final class EdgesOfDocuments {
     static void flushRefused() {
         Check.refused("10: DOWN", Check.STATE, EdgesOfDocuments::down, SearchMill::flush);
         Check.refused("10: 200 were made", Check.STATE, () -> {
-            SearchMill mill = made(200);
+            SearchMill mill = Check.made(200);
             mill.add(3);
             return mill;
         }, SearchMill::flush);
-        Check.refused("10: 200 were made, an empty buffer", Check.STATE, () -> made(200), SearchMill::flush);
+        Check.refused("10: 200 were made, an empty buffer", Check.STATE, () -> Check.made(200), SearchMill::flush);
     }
 }

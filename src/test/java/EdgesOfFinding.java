@@ -34,6 +34,7 @@ public final class EdgesOfFinding {
         cacheOfEight();
         takenLongestAgo();
         cacheOfSegments();
+        takenIsTheRightEntry();
         cacheForFindingAlone();
         cacheOfMatchesAlone();
         ranksByScanRefused();
@@ -726,6 +727,35 @@ public final class EdgesOfFinding {
         Check.due("51: the sources are still there", merged.cached(), 3);
         merged.find(1, 0, 1);
         Check.due("51: so is the merged one", merged.cached(), 1);
+    }
+
+    static void takenIsTheRightEntry() {
+        SearchMill mill = new SearchMill();
+        String[] texts = {"a", "b", "b a", "c", "a", "b c"};
+        for (int key = 0; key < texts.length; key++) {
+            Check.added(mill, key, texts[key]);
+            if (key % 3 == 2) {
+                mill.flush();
+            }
+        }
+        mill.look(true);
+        String[] words = {"a", "b", "c", "z"};
+        String[] due = {"0:96 2:96 4:96", "1:96 2:96 5:96", "3:192 5:192", ""};
+        for (String word : words) {
+            Check.termQuery(mill, 0, word);
+        }
+        for (int round = 0; round < 3; round++) {
+            for (int query = 0; query < words.length; query++) {
+                Check.due("47: " + words[query], Check.hits(mill, 0, query, 20), due[query]);
+                Check.due("51: one for a query and a segment", mill.cached(), round == 0 ? 0 : 2);
+            }
+        }
+        Check.termQuery(mill, 0, "c");
+        Check.due("47: a ninth and a tenth entry", Check.hits(mill, 0, 4, 20), due[2]);
+        for (int query = 3; query >= 0; query--) {
+            Check.due("47: " + words[query], Check.hits(mill, 0, query, 20), due[query]);
+            Check.due("51: in place of the ones of a", mill.cached(), query == 0 ? 0 : 2);
+        }
     }
 
     static void cacheForFindingAlone() {

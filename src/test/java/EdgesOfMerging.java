@@ -147,20 +147,11 @@ public final class EdgesOfMerging {
             mill.finish();
             return Check.crashed(mill);
         }, SearchMill::merge);
-        Check.refused("12: 200 were made", Check.STATE, () -> EdgesOfMerging.made(200), SearchMill::merge);
-    }
-
-    static SearchMill made(int segments) {
-        SearchMill mill = new SearchMill();
-        for (int i = 0; i < segments; i++) {
-            mill.add(i % 100);
-            mill.flush();
-        }
-        return mill;
+        Check.refused("12: 200 were made", Check.STATE, () -> Check.made(200), SearchMill::merge);
     }
 
     static void oneAt199Segments() {
-        SearchMill mill = made(199);
+        SearchMill mill = Check.made(199);
         mill.delete(0);
         Check.due("12: 199 were made", mill.merge(), 0);
         Check.due("13: it ends", mill.step(), SearchMill.NONE);
@@ -168,7 +159,7 @@ public final class EdgesOfMerging {
         Check.due("10: the 200th", mill.flush(), 199);
         Check.fails("12: 200 were made", Check.STATE, () -> mill.merge());
         Check.due("11: though one is due", mill.due(), 0);
-        SearchMill other = made(198);
+        SearchMill other = Check.made(198);
         for (int key = 0; key < 3; key++) {
             other.add(key);
         }

@@ -17,48 +17,19 @@ public final class QueryPromises {
         Check.end();
     }
 
-    /** A snapshot 0 with a document for each text, with the keys 0, 1, and so on. */
-    static SearchMill with(String... texts) {
-        SearchMill mill = new SearchMill();
-        for (int i = 0; i < texts.length; i++) {
-            Check.added(mill, i, texts[i]);
-        }
-        mill.flush();
-        mill.look(true);
-        return mill;
-    }
-
-    /** Which keys match what is the only part, as bits; asked in both ways. */
-    static int keys(SearchMill mill) {
-        int query = mill.query();
-        int keys = 0;
-        for (int key = 0; key < 12; key++) {
-            keys |= mill.rankByScan(0, query, key) == SearchMill.NONE ? 0 : 1 << key;
-        }
-        Check.due("53: matches", mill.matches(0, query), Integer.bitCount(keys));
-        Check.due("54: matchesByScan", mill.matchesByScan(0, query), Integer.bitCount(keys));
-        int found = 0;
-        int held = mill.find(0, query, 20);
-        for (int i = 0; i < held; i++) {
-            found |= 1 << mill.hitAt(i);
-        }
-        Check.due("47: find", found, keys);
-        return keys;
-    }
-
     static void term() {
-        SearchMill mill = with("cat dog", "dogs", "cat", "");
+        SearchMill mill = Check.with("cat dog", "dogs", "cat", "");
         Check.fails("36: an empty pad", Check.STATE, () -> mill.term(0));
         Check.typed(mill, "dogged");
         Check.fails("36: field 2", Check.INDEX, () -> mill.term(2));
         Check.fails("36: field -1", Check.INDEX, () -> mill.term(-1));
         Check.due("36: a part", mill.term(0), 1);
         Check.due("36: the pad is empty", mill.wipe(), 0);
-        Check.due("36: dogg", keys(mill), 0);
+        Check.due("36: dogg", Check.keys(mill), 0);
         Check.typed(mill, "-DOGS-").term(0);
-        Check.due("36: dog", keys(mill), 0b0011);
+        Check.due("36: dog", Check.keys(mill), 0b0011);
         Check.typed(mill, "cat").term(1);
-        Check.due("36: the other field", keys(mill), 0);
+        Check.due("36: the other field", Check.keys(mill), 0);
         Check.typed(mill, "cat dog");
         Check.fails("36: two tokens", Check.STATE, () -> mill.term(0));
         Check.fails("36: two tokens and no such field", Check.INDEX, () -> mill.term(2));
@@ -67,7 +38,7 @@ public final class QueryPromises {
     }
 
     static void phrase() {
-        SearchMill mill = with("a b c", "a x b c", "b a c", "a a b", "a b x x c", "c b a");
+        SearchMill mill = Check.with("a b c", "a x b c", "b a c", "a a b", "a b x x c", "c b a");
         Check.fails("37: an empty pad", Check.STATE, () -> mill.phrase(0, 0));
         Check.typed(mill, "a b");
         Check.fails("37: field 2", Check.INDEX, () -> mill.phrase(2, 0));
@@ -75,30 +46,30 @@ public final class QueryPromises {
         Check.fails("37: slop 21", Check.ARGUMENT, () -> mill.phrase(0, 21));
         Check.fails("37: field and slop", Check.INDEX, () -> mill.phrase(2, 21));
         mill.phrase(0, 0);
-        Check.due("37: a b", keys(mill), 0b011001);
+        Check.due("37: a b", Check.keys(mill), 0b011001);
         Check.typed(mill, "a b").phrase(0, 1);
-        Check.due("37: a b, slop 1", keys(mill), 0b011011);
+        Check.due("37: a b, slop 1", Check.keys(mill), 0b011011);
         Check.typed(mill, "a b c").phrase(0, 1);
-        Check.due("37: a b c, slop 1", keys(mill), 0b000011);
+        Check.due("37: a b c, slop 1", Check.keys(mill), 0b000011);
         Check.typed(mill, "a b c").phrase(0, 2);
-        Check.due("37: a b c, slop 2", keys(mill), 0b010011);
+        Check.due("37: a b c, slop 2", Check.keys(mill), 0b010011);
         Check.typed(mill, "a ... b").phrase(0, 0);
-        Check.due("37: signs are no places", keys(mill), 0b011001);
+        Check.due("37: signs are no places", Check.keys(mill), 0b011001);
         Check.typed(mill, "a a").phrase(0, 0);
-        Check.due("37: the same token twice", keys(mill), 0b001000);
+        Check.due("37: the same token twice", Check.keys(mill), 0b001000);
         Check.typed(mill, "c").phrase(0, 0);
-        Check.due("37: one token", keys(mill), 0b110111);
+        Check.due("37: one token", Check.keys(mill), 0b110111);
         Check.typed(mill, "a b").phrase(0, 20);
-        Check.due("37: never ahead", keys(mill), 0b011011);
+        Check.due("37: never ahead", Check.keys(mill), 0b011011);
         Check.typed(mill, "a b c d e f").phrase(0, 20);
-        Check.due("37: six tokens", keys(mill), 0);
+        Check.due("37: six tokens", Check.keys(mill), 0);
         Check.typed(mill, "a b c d e f g");
         Check.fails("37: seven tokens", Check.STATE, () -> mill.phrase(0, 0));
         Check.fails("37: seven tokens and slop", Check.ARGUMENT, () -> mill.phrase(0, 21));
     }
 
     static void near() {
-        SearchMill mill = with("a b", "b a", "a x b", "b x x a", "a", "a a", "b");
+        SearchMill mill = Check.with("a b", "b a", "a x b", "b x x a", "a", "a a", "b");
         Check.typed(mill, "a");
         Check.fails("38: one token", Check.STATE, () -> mill.near(0, 1, true));
         Check.typed(mill, " b");
@@ -107,60 +78,60 @@ public final class QueryPromises {
         Check.fails("38: distance 21", Check.ARGUMENT, () -> mill.near(0, 21, true));
         Check.fails("38: field and distance", Check.INDEX, () -> mill.near(2, 0, true));
         mill.near(0, 1, true);
-        Check.due("38: in order", keys(mill), 0b0000001);
+        Check.due("38: in order", Check.keys(mill), 0b0000001);
         Check.typed(mill, "a b").near(0, 1, false);
-        Check.due("38: not in order", keys(mill), 0b0000011);
+        Check.due("38: not in order", Check.keys(mill), 0b0000011);
         Check.typed(mill, "a b").near(0, 2, false);
-        Check.due("38: distance 2", keys(mill), 0b0000111);
+        Check.due("38: distance 2", Check.keys(mill), 0b0000111);
         Check.typed(mill, "a b").near(0, 20, true);
-        Check.due("38: in order, distance 20", keys(mill), 0b0000101);
+        Check.due("38: in order, distance 20", Check.keys(mill), 0b0000101);
         Check.typed(mill, "a b").near(0, 20, false);
-        Check.due("38: distance 20", keys(mill), 0b0001111);
+        Check.due("38: distance 20", Check.keys(mill), 0b0001111);
         Check.typed(mill, "a a").near(0, 20, false);
-        Check.due("38: the same token at two places", keys(mill), 0b0100000);
+        Check.due("38: the same token at two places", Check.keys(mill), 0b0100000);
         Check.typed(mill, "a b c");
         Check.fails("38: three tokens", Check.STATE, () -> mill.near(0, 1, false));
     }
 
     static void prefix() {
-        SearchMill mill = with("caring", "cars", "ca", "c", "x car", "abcdefghijklm", "cat");
+        SearchMill mill = Check.with("caring", "cars", "ca", "c", "x car", "abcdefghijklm", "cat");
         Check.fails("39: an empty pad", Check.STATE, () -> mill.prefix(0));
         Check.typed(mill, "CAR");
         Check.fails("39: field 2", Check.INDEX, () -> mill.prefix(2));
         mill.prefix(0);
-        Check.due("39: car", keys(mill), 0b0010011);
+        Check.due("39: car", Check.keys(mill), 0b0010011);
         Check.typed(mill, "cars").prefix(0);
-        Check.due("39: a word, not its stem", keys(mill), 0);
+        Check.due("39: a word, not its stem", Check.keys(mill), 0);
         Check.typed(mill, "c").prefix(0);
-        Check.due("39: c", keys(mill), 0b1011111);
+        Check.due("39: c", Check.keys(mill), 0b1011111);
         Check.typed(mill, "abcdefghijklzzz").prefix(0);
-        Check.due("39: the first 12 signs count", keys(mill), 0b0100000);
+        Check.due("39: the first 12 signs count", Check.keys(mill), 0b0100000);
         Check.typed(mill, "c a");
         Check.fails("39: two words", Check.STATE, () -> mill.prefix(0));
         Check.fails("39: two words and no such field", Check.INDEX, () -> mill.prefix(-1));
     }
 
     static void wild() {
-        SearchMill mill = with("cat", "cut", "ct", "coat", "cart9", "abcdefghijkl");
+        SearchMill mill = Check.with("cat", "cut", "ct", "coat", "cart9", "abcdefghijkl");
         Check.fails("40: an empty pad", Check.STATE, () -> mill.wild(0));
         Check.typed(mill, "C?t");
         Check.fails("40: field 2", Check.INDEX, () -> mill.wild(2));
         mill.wild(0);
-        Check.due("40: C?t", keys(mill), 0b000011);
+        Check.due("40: C?t", Check.keys(mill), 0b000011);
         Check.typed(mill, "c*t").wild(0);
-        Check.due("40: c*t", keys(mill), 0b001111);
+        Check.due("40: c*t", Check.keys(mill), 0b001111);
         Check.typed(mill, "c*t*").wild(0);
-        Check.due("40: c*t*", keys(mill), 0b011111);
+        Check.due("40: c*t*", Check.keys(mill), 0b011111);
         Check.typed(mill, "*").wild(0);
-        Check.due("40: *", keys(mill), 0b111111);
+        Check.due("40: *", Check.keys(mill), 0b111111);
         Check.typed(mill, "?").wild(0);
-        Check.due("40: ?", keys(mill), 0);
+        Check.due("40: ?", Check.keys(mill), 0);
         Check.typed(mill, "*?*??").wild(0);
-        Check.due("40: three signs or more", keys(mill), 0b111011);
+        Check.due("40: three signs or more", Check.keys(mill), 0b111011);
         Check.typed(mill, "cat").wild(0);
-        Check.due("40: cat", keys(mill), 0b000001);
+        Check.due("40: cat", Check.keys(mill), 0b000001);
         Check.typed(mill, "????????????").wild(0);
-        Check.due("40: twelve", keys(mill), 0b100000);
+        Check.due("40: twelve", Check.keys(mill), 0b100000);
         Check.typed(mill, "*************");
         Check.fails("40: thirteen signs", Check.STATE, () -> mill.wild(0));
         mill.wipe();
@@ -173,7 +144,7 @@ public final class QueryPromises {
     }
 
     static void fuzzy() {
-        SearchMill mill = with("cat", "cart", "at", "dog", "cut", "tac", "caters");
+        SearchMill mill = Check.with("cat", "cart", "at", "dog", "cut", "tac", "caters");
         Check.fails("41: an empty pad", Check.STATE, () -> mill.fuzzy(0, 1));
         Check.typed(mill, "Cat");
         Check.fails("41: field 2", Check.INDEX, () -> mill.fuzzy(2, 0));
@@ -181,13 +152,13 @@ public final class QueryPromises {
         Check.fails("41: edits 3", Check.ARGUMENT, () -> mill.fuzzy(0, 3));
         Check.fails("41: field and edits", Check.INDEX, () -> mill.fuzzy(-1, 3));
         mill.fuzzy(0, 0);
-        Check.due("41: no edits", keys(mill), 0b0000001);
+        Check.due("41: no edits", Check.keys(mill), 0b0000001);
         Check.typed(mill, "cat").fuzzy(0, 1);
-        Check.due("41: one edit", keys(mill), 0b0010111);
+        Check.due("41: one edit", Check.keys(mill), 0b0010111);
         Check.typed(mill, "cat").fuzzy(0, 2);
-        Check.due("41: two edits", keys(mill), 0b1110111);
+        Check.due("41: two edits", Check.keys(mill), 0b1110111);
         Check.typed(mill, "caters").fuzzy(0, 1);
-        Check.due("41: the word, not its stem", keys(mill), 0b1000000);
+        Check.due("41: the word, not its stem", Check.keys(mill), 0b1000000);
         Check.typed(mill, "a b");
         Check.fails("41: two words", Check.STATE, () -> mill.fuzzy(0, 0));
         Check.fails("41: two words and edits", Check.ARGUMENT, () -> mill.fuzzy(0, 3));
@@ -233,7 +204,7 @@ public final class QueryPromises {
     }
 
     static void least() {
-        SearchMill mill = with("a", "a b", "a b c", "c", "");
+        SearchMill mill = Check.with("a", "a b", "a b c", "c", "");
         Check.fails("42: parts 1", Check.ARGUMENT, () -> mill.least(1, 1));
         Check.fails("42: parts 9", Check.ARGUMENT, () -> mill.least(9, 1));
         Check.fails("42: least 0", Check.ARGUMENT, () -> mill.least(2, 0));
@@ -246,28 +217,28 @@ public final class QueryPromises {
             Check.fails("42: fewer parts", Check.STATE, () -> mill.least(3, 1));
             Check.typed(mill, "c").term(0);
             Check.due("42: one part", mill.least(3, least), 1);
-            Check.due("42: least " + least, keys(mill), due[least - 1]);
+            Check.due("42: least " + least, Check.keys(mill), due[least - 1]);
         }
         Check.typed(mill, "c").term(0);
         Check.typed(mill, "a").term(0);
         Check.typed(mill, "b").term(0);
         Check.due("42: the last ones", mill.least(2, 2), 2);
         mill.least(2, 1);
-        Check.due("42: c, or a and b", keys(mill), 0b01110);
+        Check.due("42: c, or a and b", Check.keys(mill), 0b01110);
     }
 
     static void but() {
-        SearchMill mill = with("a", "a b", "b", "a c", "");
+        SearchMill mill = Check.with("a", "a b", "b", "a c", "");
         Check.fails("43: no parts", Check.STATE, () -> mill.but());
         Check.typed(mill, "a").term(0);
         Check.fails("43: one part", Check.STATE, () -> mill.but());
         Check.typed(mill, "b").term(0);
         Check.due("43: one part then", mill.but(), 1);
-        Check.due("43: a without b", keys(mill), 0b01001);
+        Check.due("43: a without b", Check.keys(mill), 0b01001);
         Check.typed(mill, "b").term(0);
         Check.typed(mill, "a").term(0);
         mill.but();
-        Check.due("43: b without a", keys(mill), 0b00100);
+        Check.due("43: b without a", Check.keys(mill), 0b00100);
         Check.typed(mill, "a").term(0);
         Check.typed(mill, "a").term(0);
         Check.typed(mill, "b").term(0);
@@ -278,7 +249,7 @@ public final class QueryPromises {
         Check.typed(mill, "b").term(0);
         mill.but();
         mill.but();
-        Check.due("43: a without (a without b)", keys(mill), 0b00010);
+        Check.due("43: a without (a without b)", Check.keys(mill), 0b00010);
     }
 
     static void query() {
@@ -311,7 +282,7 @@ public final class QueryPromises {
     }
 
     static void weigh() {
-        SearchMill mill = with("a", "b");
+        SearchMill mill = Check.with("a", "b");
         Check.fails("46: field 2", Check.INDEX, () -> mill.weigh(2, 1));
         Check.fails("46: field -1", Check.INDEX, () -> mill.weigh(-1, 0));
         Check.fails("46: weight 0", Check.ARGUMENT, () -> mill.weigh(0, 0));
@@ -336,21 +307,21 @@ public final class QueryPromises {
         mill.look(true);
         Check.typed(mill, "the hound");
         Check.due("36: one token beside a stop word", mill.term(0), 1);
-        Check.due("36: a synonym of the text", keys(mill), 0b011);
+        Check.due("36: a synonym of the text", Check.keys(mill), 0b011);
         Check.typed(mill, "dog").term(0);
-        Check.due("36: none of the pad", keys(mill), 0b001);
+        Check.due("36: none of the pad", Check.keys(mill), 0b001);
         Check.typed(mill, "the");
         Check.fails("36: a stop word alone", Check.STATE, () -> mill.term(0));
         Check.fails("37: a stop word alone", Check.STATE, () -> mill.phrase(0, 0));
         Check.due("39: a stop word is a word", mill.prefix(0), 1);
-        Check.due("39: but no token", keys(mill), 0);
+        Check.due("39: but no token", Check.keys(mill), 0);
         Check.typed(mill, "the").fuzzy(0, 2);
-        Check.due("41: no token is like it", keys(mill), 0);
+        Check.due("41: no token is like it", Check.keys(mill), 0);
         Check.typed(mill, "dog the ran").phrase(0, 0);
-        Check.due("37: a stop word has its place", keys(mill), 0);
+        Check.due("37: a stop word has its place", Check.keys(mill), 0);
         Check.typed(mill, "hound ran").phrase(0, 0);
-        Check.due("37: synonyms have the same place", keys(mill), 0b011);
+        Check.due("37: synonyms have the same place", Check.keys(mill), 0b011);
         Check.typed(mill, "dog the hound").near(0, 3, false);
-        Check.due("38: two tokens at the same place are not apart", keys(mill), 0);
+        Check.due("38: two tokens at the same place are not apart", Check.keys(mill), 0);
     }
 }

@@ -11,18 +11,8 @@ public final class QuestionPromises {
         Check.end();
     }
 
-    static SearchMill with(String... texts) {
-        SearchMill mill = new SearchMill();
-        for (int i = 0; i < texts.length; i++) {
-            Check.added(mill, i, texts[i]);
-        }
-        mill.flush();
-        mill.look(true);
-        return mill;
-    }
-
     static void rankByScan() {
-        SearchMill mill = with("a", "b");
+        SearchMill mill = Check.with("a", "b");
         Check.fails("52: no query", Check.INDEX, () -> mill.rankByScan(0, 0, 0));
         Check.termQuery(mill, 0, "a");
         Check.fails("52: snapshot 1", Check.INDEX, () -> mill.rankByScan(1, 0, 0));
@@ -42,7 +32,7 @@ public final class QuestionPromises {
     }
 
     static void matches() {
-        SearchMill mill = with("a", "b", "a b");
+        SearchMill mill = Check.with("a", "b", "a b");
         Check.termQuery(mill, 0, "a");
         Check.fails("53: snapshot 1", Check.INDEX, () -> mill.matches(1, 0));
         Check.fails("53: query 1", Check.INDEX, () -> mill.matches(0, 1));
@@ -107,7 +97,7 @@ public final class QuestionPromises {
     }
 
     static void passages() {
-        SearchMill mill = with("a x x x x x a", "b");
+        SearchMill mill = Check.with("a x x x x x a", "b");
         Check.termQuery(mill, 0, "a");
         Check.termQuery(mill, 1, "a");
         Check.due("57: one", mill.passages(0, 0, 0, 0), 1);
@@ -148,7 +138,7 @@ public final class QuestionPromises {
     }
 
     static void passageLeaves() {
-        SearchMill mill = with("p x x x x x x x a b x x x x x dog");
+        SearchMill mill = Check.with("p x x x x x x x a b x x x x x dog");
         Check.typed(mill, "p b").near(0, 20, true);
         mill.query();
         Check.due("57: NEAR is marked at its first token", mill.passageAt(0, 0, 0, 0, 0), 0);
@@ -183,7 +173,7 @@ public final class QuestionPromises {
     }
 
     static void passageChoice() {
-        SearchMill mill = with("a x x x x b x x x x c x x x x d", "a x x x x x b x x x x x c x x x x x d",
+        SearchMill mill = Check.with("a x x x x b x x x x c x x x x d", "a x x x x x b x x x x x c x x x x x d",
             "a x x x x x x b a x x x x x x c", "x a x x b x x x c x a");
         int all = any(mill, "abcd");
         Check.due("57: a and b, c and d", mill.passages(0, all, 0, 0), 2);
